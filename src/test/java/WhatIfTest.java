@@ -91,8 +91,13 @@ public final class WhatIfTest {
         c.due("a's plot taken", x.rests(-1), 2);
         c.due("first", x.rests(0), 0);
         c.due("second", x.rests(1), 2);
+        x.image(0);
         x.undo();
         c.due("again", x.rests(-1), 3);
+        x.restore(0);
+        c.due("taken as kept", x.rests(-1), 2);
+        Calls.bank(x, two + "plot a 2 2;plot b 0 2;");
+        c.due("a new bank", x.rests(-1), 3);
         x.blow(6);
         c.due("behind the gust all rest", x.rests(-1), 4);
         c.due("rising", x.rests(2), 2);
@@ -158,6 +163,13 @@ public final class WhatIfTest {
         c.due("the last of b", x.oiledAt(89), 147);
         c.due("by the shorter way, by four as the clock goes", oiled(x, 5, 5), 6);
         c.due("the last", x.oiledAt(5), 5);
+        GaleBank shade = Calls.of("yard 4 4;owner a 0 3 20 1 5;fence 0 1;tree 0 0;eddy 0 3 2;gust 0 0 7;vane a 5;");
+        shade.blow(1);
+        // Of 7 there are 2 left for a, who, oiled, goes by two from 5 towards 2.
+        c.due("by what comes to it", oiled(shade, 3), 1);
+        c.due("not all the way", oiled(shade, 2), 0);
+        c.due("not as without oil", oiled(shade, 5), 0);
+        oiled(x, 5, 5);
         Calls.bank(x, "");
         c.due("told still", x.oiledAt(5), 5);
         c.due("no OWNERS", oiled(x), -1);
@@ -256,15 +268,17 @@ public final class WhatIfTest {
 
     private void odds() {
         c.promise("28 odds");
-        GaleBank x = Calls.of("yard 4 4;owner a 0 3 500 1 0;owner b 3 3 500 1 9;vane b 3;tree 0 1;run 3 4;");
-        for (int n = 1; n <= 100; n += 9) {
+        GaleBank x = Calls.of("yard 4 4;owner a 0 3 500 1 2;owner b 3 3 500 1 3;vane b 3;tree 0 1;run 3 4;");
+        int all = 0;
+        for (int n = 1; n <= 100; n++) {
             int less = 0;
             for (int i = 0; i < n; i++) {
                 less += x.drawn(1, 12, Integer.MAX_VALUE - 4 + i) < 500 ? 1 : 0;
             }
             c.due("odds " + n, x.odds(1, n, Integer.MAX_VALUE - 4), less);
+            all = less;
         }
-        c.due("b mostly loses", x.odds(1, 100, 1) > 50, true);
+        c.due("seeds differ", all > 0 && all < 100, true);
         c.due("n 0", x.odds(0, 0, 5), -1);
         c.due("n 101", x.odds(0, 101, 5), -1);
         c.due("OWNER 2", x.odds(2, 1, 5), -1);
