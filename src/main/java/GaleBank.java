@@ -446,13 +446,9 @@ public final class GaleBank {
 
     // ---- what would be behind the last quarter ----
 
-    private void tryToEnd() {
-        wind.pass(here.bank, trial, QUARTERS);
-    }
-
     public int richest() {
         trial.copy(here.state);
-        tryToEnd();
+        wind.pass(here.bank, trial, QUARTERS);
         int first = NONE;
         for (int o = 0; o < here.bank.owners.count; o++) {
             if (first == NONE || trial.wealth(o) > trial.wealth(first)) {
@@ -464,7 +460,7 @@ public final class GaleBank {
 
     private int wealthAtEnd(int o) {
         trial.copy(here.state);
-        tryToEnd();
+        wind.pass(here.bank, trial, QUARTERS);
         return trial.wealth(o);
     }
 
@@ -479,7 +475,7 @@ public final class GaleBank {
             if (here.bank.isCell(at) && here.state.thing[at] == NOTHING) {
                 trial.copy(here.state);
                 trial.putFence(at);
-                tryToEnd();
+                wind.pass(here.bank, trial, QUARTERS);
                 if (trial.wealth(o) > most) {
                     most = trial.wealth(o);
                     bestAt = at;
@@ -503,7 +499,7 @@ public final class GaleBank {
         int with = wealthAtEnd(o);
         trial.copy(here.state);
         trial.takeTree(here.bank, tree);
-        tryToEnd();
+        wind.pass(here.bank, trial, QUARTERS);
         return trial.wealth(o) - with;
     }
 
@@ -536,7 +532,7 @@ public final class GaleBank {
                 trial.putFence(at);
             }
         }
-        tryToEnd();
+        wind.pass(here.bank, trial, QUARTERS);
     }
 
     public int rests(int k) {
@@ -709,13 +705,13 @@ public final class GaleBank {
         if (here.sentence.ones == 0) {
             return NONE;
         }
-        int left = here.sentence.ownersOf(here.state, here.bank.owners.count);
+        int owners = here.sentence.ownersOf(here.state, here.bank.owners.count);
         if (k == NONE) {
-            return Integer.bitCount(left);
+            return Integer.bitCount(owners);
         }
         int before = 0;
         for (int o = 0; o < OWNERS; o++) {
-            if ((left >> o & 1) == 1) {
+            if ((owners >> o & 1) == 1) {
                 if (before == k) {
                     return o;
                 }
@@ -895,7 +891,8 @@ public final class GaleBank {
                 return NONE;
             }
             if (kind[next] != wanted) {
-                blameNext(BAD_TOKEN);
+                fault = BAD_TOKEN;
+                faultAt = place[next];
                 return NONE;
             }
             int taken = value[next];
@@ -1078,11 +1075,7 @@ public final class GaleBank {
         }
 
         boolean isCell(int at) {
-            return at >= 0 && at < CELLS && isInside(at % ROW, at / ROW);
-        }
-
-        private boolean isInside(int x, int y) {
-            return x >= 0 && x < width && y >= 0 && y < height;
+            return at >= 0 && at < CELLS && at % ROW < width && at / ROW < height;
         }
 
         boolean isOwner(int o) {
@@ -1103,7 +1096,7 @@ public final class GaleBank {
             for (int i = 0; i < REACH; i++) {
                 x += stepX;
                 y += stepY;
-                if (!isInside(x, y)) {
+                if (x < 0 || x >= width || y < 0 || y >= height) {
                     break;
                 }
                 int there = things[y * ROW + x] >> KIND_BITS << KIND_BITS;
@@ -1170,12 +1163,10 @@ public final class GaleBank {
             return text.isSound() ? y * ROW + x : NONE;
         }
 
-        private int takeFreeCell(Text text) {
-            int at = takeCell(text);
-            if (at >= 0 && at < CELLS && thing[at] != NOTHING) {
+        private static void refuseIfTaken(Text text, int[] cells, int at) {
+            if (at >= 0 && at < cells.length && cells[at] != 0) {
                 text.blameTaken(TOLD_WRONG);
             }
-            return text.isSound() ? at : NONE;
         }
 
         private void readYard(Text text) {
@@ -1198,7 +1189,8 @@ public final class GaleBank {
             if (owners.find(name) != NONE) {
                 text.blameTaken(TOLD_WRONG);
             }
-            int at = takeFreeCell(text);
+            int at = takeCell(text);
+            refuseIfTaken(text, thing, at);
             int gold = text.takeNumber(0, 999);
             int share = text.takeNumber(1, 99);
             int stick = text.takeNumber(0, 9);
@@ -1230,7 +1222,8 @@ public final class GaleBank {
             if (trees >= TREES) {
                 text.blameTaken(TOO_MANY);
             }
-            int at = takeFreeCell(text);
+            int at = takeCell(text);
+            refuseIfTaken(text, thing, at);
             if (text.isSound() && trees < TREES && at >= 0 && at < CELLS) {
                 thing[at] = TREE_THING + trees;
                 treeAt[trees] = at;
@@ -1242,7 +1235,8 @@ public final class GaleBank {
             if (fences >= FENCES) {
                 text.blameTaken(TOO_MANY);
             }
-            int at = takeFreeCell(text);
+            int at = takeCell(text);
+            refuseIfTaken(text, thing, at);
             if (text.isSound() && at >= 0 && at < CELLS) {
                 thing[at] = FENCE_THING;
                 fences++;
@@ -1254,9 +1248,7 @@ public final class GaleBank {
                 text.blameTaken(TOO_MANY);
             }
             int at = takeCell(text);
-            if (at >= 0 && at < CELLS && eddy[at] != 0) {
-                text.blameTaken(TOLD_WRONG);
-            }
+            refuseIfTaken(text, eddy, at);
             int turn = text.takeNumber(1, DIRS - 1);
             if (text.isSound() && at >= 0 && at < CELLS) {
                 eddy[at] = turn;
