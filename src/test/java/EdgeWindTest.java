@@ -529,9 +529,9 @@ public final class EdgeWindTest {
 
     private void drawsWrap() {
         c.promise("DRAWN: x * 1103515245 + 12345 (an int, wrapping), (x >>> 8) % n");
-        GaleBank x = Calls.of(YARD + "owner a 0 9 500 1 9;");
         int[] seeds = {0, 1, -1, 42, Integer.MAX_VALUE, Integer.MIN_VALUE, 0x7fffff00, 0x80000100, -12345};
         for (int seed : seeds) {
+            GaleBank x = Calls.of(YARD + "owner a 0 9 500 1 9;");
             int next = seed;
             int gold = 500;
             for (int n = 1; n <= 48; n++) {
@@ -549,8 +549,8 @@ public final class EdgeWindTest {
     private void drawOf0IsNoGust() {
         c.promise("DRAWN: a draw of 10 (0: no gust, else FORCE)");
         // In the first calm all gold goes to the PURSE, and no gust takes it any more.
-        GaleBank x = Calls.of(YARD + "owner a 0 9 99 1 9;run 99 999;gust 0 4 9;");
         for (int seed = 0; seed < 20; seed++) {
+            GaleBank x = Calls.of(YARD + "owner a 0 9 99 1 9;run 99 999;gust 0 4 9;");
             int next = seed;
             int has = 99;
             boolean calm = false;
