@@ -66,6 +66,45 @@ final class Calls {
         return row;
     }
 
+    /** All that an object tells of its bank and of what is so, and some of what would be; of a yard of 20 cells some 230 calls. */
+    static String all(GaleBank x) {
+        StringBuilder b = new StringBuilder();
+        for (int what = 0; what < 8; what++) {
+            b.append(x.count(what)).append(' ').append(x.now(what)).append(' ');
+        }
+        for (int y = 0; y < x.count(1); y++) {
+            for (int i = 0; i < x.count(0); i++) {
+                b.append(x.cell(10 * y + i, 0)).append(x.cell(10 * y + i, 1)).append(x.cell(10 * y + i, 2)).append(' ');
+            }
+        }
+        for (int quarter = 0; quarter < 48; quarter++) {
+            b.append(x.gust(quarter, 0)).append(x.gust(quarter, 1)).append(' ');
+        }
+        for (int o = 0; o < x.count(2); o++) {
+            for (int what = 0; what < 11; what++) {
+                b.append(x.owner(o, what)).append(' ');
+            }
+            b.append(x.has(o, 0)).append(' ').append(x.fence(o)).append(' ').append(x.drawn(o, 48, 3)).append(' ');
+            for (int tree = 0; tree < x.count(3); tree++) {
+                b.append(x.suit(o, tree)).append(' ');
+            }
+        }
+        b.append(x.rests(-1)).append(' ').append(x.richest()).append(' ').append(x.said(-1)).append(' ').append(x.said(0));
+        b.append(' ').append(x.judge(0));
+        for (int what = 0; what < 5; what++) {
+            b.append(' ').append(x.judged(what));
+        }
+        return b.toString();
+    }
+
+    void same(String what, String got, String want) {
+        asked++;
+        if (!got.equals(want)) {
+            wrong++;
+            System.out.println(promise + ": " + what + " told " + got + ", due is " + want);
+        }
+    }
+
     static int bank(GaleBank x, String text) {
         tape(x, bytes(text));
         return x.bank();

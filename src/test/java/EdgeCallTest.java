@@ -14,6 +14,7 @@ public final class EdgeCallTest {
         test.newObject();
         test.feed();
         test.end();
+        test.endHidesTheRest();
         test.bank();
         test.fault();
         test.cell();
@@ -29,6 +30,7 @@ public final class EdgeCallTest {
         test.point();
         test.undoKeepsEight();
         test.undoOfWhatWasDone();
+        test.undoneAsItWas();
         test.now();
         test.fence();
         test.more();
@@ -50,6 +52,8 @@ public final class EdgeCallTest {
         test.said();
         test.image();
         test.restore();
+        test.restoredAsKept();
+        test.restoredTexts();
         test.restoreLeaves();
         test.count();
         test.c.finish();
@@ -126,6 +130,41 @@ public final class EdgeCallTest {
         }
         c.due("941 of 940", x.end(941), false);
         c.due("940 of 940", x.end(940), true);
+    }
+
+    private void endHidesTheRest() {
+        c.promise("3 The tape has its first n bytes alone");
+        GaleBank x = new GaleBank();
+        Calls.tape(x, Calls.bytes("run 1 23;#"));
+        x.end(7);
+        c.due("a NUMBER cut, no ; any more", x.bank(), -8);
+        Calls.tape(x, Calls.bytes("runabc"));
+        x.end(3);
+        c.due("a WORD cut", x.bank(), -4);
+        Calls.tape(x, Calls.bytes("run 1 23;#"));
+        x.end(9);
+        c.due("a # cut off", x.bank(), 1);
+        Calls.tape(x, Calls.bytes("run 1 23;"));
+        x.end(7);
+        Calls.tape(x, Calls.bytes(";"));
+        c.due("fed anew behind it", x.bank(), 1);
+        c.due("CASH", x.count(6), 2);
+        Calls.tape(x, Calls.bytes("blow 1;blow"));
+        x.end(7);
+        c.due("a LINE of a PLAN cut off", x.plan(), 1);
+        Calls.tape(x, Calls.bytes("faces and"));
+        x.end(5);
+        c.due("a joint of a SENTENCE cut off", x.sentence(), 1);
+        Calls.bank(x, "yard 4 4;owner a 0 3 50 1 9;gust 47 4 5;");
+        x.blow(1);
+        for (int junk : new int[] {0, 1, 8, 127, 128, 255}) {
+            Calls.tape(x, Calls.bytes(0, junk, junk));
+            x.end(1);
+            c.due("what oiled() reads, ahead of " + junk, x.oiled(), 1);
+            Calls.tape(x, Calls.bytes(47, 4, junk, junk));
+            x.end(2);
+            c.due("what worth() reads, ahead of " + junk, x.worth(0), 5);
+        }
     }
 
     // ---- the three texts ----
@@ -513,6 +552,45 @@ public final class EdgeCallTest {
         x.blow(48);
         x.blow(48);
         c.due("a blow() that answered 0 was nothing", x.undo(), 0);
+    }
+
+    private void undoneAsItWas() {
+        c.promise("17 is undone: all is as it was");
+        GaleBank x = Calls.of("yard 4 3;owner a 0 2 50 2 9;owner b 3 2 40 1 0;tree 1 0;vane b 5;gust 1 0 1;gust 2 5 9;gust 3 2 9;run 2 3;pact a b;");
+        String[] before = new String[4];
+        for (int i = 0; i < 4; i++) {
+            before[i] = owners(x);
+            x.blow(1);
+        }
+        c.due("b lost and had", x.owner(1, 9) > 0 && x.owner(1, 10) > 0, true);
+        for (int i = 3; i >= 0; i--) {
+            c.due("undo", x.undo(), i);
+            c.same("as it was ahead of " + i, owners(x), before[i]);
+        }
+        Calls.plan(x, "blow 4;point a 3;fell 0;set 0 0;");
+        x.judge(1);
+        String lived = owners(x);
+        x.undo();
+        c.same("a PLAN lived", owners(x), before[0]);
+        x.blow(4);
+        x.point(0, 3);
+        x.fell(0);
+        x.set(0);
+        c.same("its acts by calls", owners(x), lived);
+    }
+
+    /** What is so of all owners, and of all. */
+    private static String owners(GaleBank x) {
+        StringBuilder b = new StringBuilder();
+        for (int what = 0; what < 8; what++) {
+            b.append(x.now(what)).append(' ');
+        }
+        for (int o = 0; o < x.count(2); o++) {
+            for (int what = 0; what < 11; what++) {
+                b.append(x.owner(o, what)).append(' ');
+            }
+        }
+        return b.toString();
     }
 
     private void now() {
@@ -1015,6 +1093,15 @@ public final class EdgeCallTest {
         c.due("all", x.said(-1), 8);
         Calls.sentence(x, "place>6");
         c.due("the last OWNER", x.said(0), 7);
+        Calls.sentence(x, "dir=9 or ".repeat(19) + "dir=0");
+        c.due("by the last of twenty ONES", x.said(-1), 8);
+        Calls.sentence(x, "dir=0 and ".repeat(19) + "dir=1");
+        c.due("but for the last of twenty ONES", x.said(-1), 0);
+        Calls.sentence(x, "not(dir=1 or not(dir=1 or not(dir=1 or not dir=0)))");
+        c.due("eight within one another", x.said(-1), 8);
+        Calls.sentence(x, "dir=1 or dir=0 and(dir=1 or dir=0 and(dir=1 or dir=0 and(dir=1 or dir=0 and(dir=1 or dir=0 and(dir=1 or dir=0 and place=2)))))");
+        c.due("much that waits for a bracket's end", x.said(-1), 1);
+        c.due("whom", x.said(0), 2);
         Calls.sentence(x, "dir=0 and not faces");
         c.due("no gust yet, so none faces it", x.said(-1), 8);
         GaleBank none = new GaleBank();
@@ -1079,6 +1166,83 @@ public final class EdgeCallTest {
         Calls.bank(empty, BANK);
         c.due("an empty BANK is kept, too", empty.restore(0), true);
         c.due("no OWNERS", empty.count(2), 0);
+    }
+
+    private static final String FULL = "yard 5 4;owner a 0 3 50 2 3;owner b 4 3 40 1 0;vane a 6;tree 0 2;tree 4 1;fence 3 0;eddy 0 3 2;eddy 4 3 1;"
+            + "gust 0 0 5;gust 3 4 9;gust 8 1 7;gust 40 6 9;run 2 3;pact a b;plot b 2 2;";
+    private static final String OTHER = "yard 5 4;owner c 1 1 9 1 9;owner d 0 0 8 99 8;owner e 3 3 7 50 7;tree 4 3;tree 0 3;tree 2 2;eddy 1 1 7;fence 3 1;"
+            + "gust 0 3 1;gust 8 7 2;run 9 9;pact c d;plot c 2 3;plot d 4 0;vane c 5;";
+
+    private void restoredAsKept() {
+        c.promise("37 They are as kept in place k");
+        GaleBank x = Calls.of(FULL);
+        Calls.plan(x, "point b 2;blow 9;set 1 1;fell 1;");
+        Calls.sentence(x, "not (gold<45 or dir=3) and stick>0");
+        x.blow(4);
+        x.fell(0);
+        x.point(0, 5);
+        String kept = Calls.all(x);
+        x.image(0);
+        Calls.bank(x, OTHER);
+        Calls.plan(x, "oil c;oil d;oil e;fell 9;");
+        Calls.sentence(x, "place<9");
+        x.blow(20);
+        c.due("restore", x.restore(0), true);
+        c.same("as kept", Calls.all(x), kept);
+
+        GaleBank y = Calls.of(FULL);
+        y.blow(4);
+        y.image(1);
+        Calls.bank(y, OTHER);
+        y.restore(1);
+        int pairs = oiled(y, 1, 4);
+        GaleBank fresh = Calls.of(FULL);
+        fresh.blow(4);
+        for (int a = 0; a < 8; a++) {
+            c.due("the BANK as it was told: " + a, oiled(y, a, 4), oiled(fresh, a, 4));
+        }
+        c.due("the BANK as it was told", oiled(fresh, 1, 4), pairs);
+        y.fell(1);
+        c.due("a tree's CELL", y.cell(14, 0), 0);
+        c.due("its names", Calls.plan(y, "oil a;oil b;"), 2);
+        c.due("no other names", Calls.plan(y, "oil c;"), -5);
+    }
+
+    private void restoredTexts() {
+        c.promise("37 PLAN and SENTENCE are as kept");
+        GaleBank x = Calls.of(FULL);
+        String[] plans = {"oil a;point b 7;blow 3;", "set 0 0;fell 1;oil b;point a 2;blow 40;", ""};
+        String[] sentences = {"place=1", "faces or not(gold>45 and purse=0)", "dir<7"};
+        int[] said = {1, 2, 3};
+        for (int i = 0; i < 3; i++) {
+            Calls.plan(x, plans[i]);
+            Calls.sentence(x, sentences[i]);
+            x.judge(0);
+            String kept = told(x);
+            x.image(i % 2);
+            Calls.plan(x, "blow 1;oil b;fell 0;set 1 1;point a 4;");
+            Calls.sentence(x, "stick=3 or place>0 and not place=1");
+            c.due("restore " + i, x.restore(i % 2), true);
+            x.judge(0);
+            c.same("kept " + i, told(x), kept);
+            c.due("LINES " + i, x.count(7), said[i] == 3 ? 0 : 3 + 2 * i);
+        }
+        Calls.plan(x, "set 0 0;set 0 0;");
+        c.due("a longer PLAN once kept does not show", x.judge(0), 1);
+    }
+
+    private static String told(GaleBank x) {
+        StringBuilder b = new StringBuilder();
+        for (int what = 0; what < 5; what++) {
+            b.append(x.judged(what)).append(' ');
+        }
+        for (int k = -1; k < 3; k++) {
+            b.append(x.said(k)).append(' ');
+        }
+        x.judge(1);
+        b.append(owners(x));
+        x.undo();
+        return b.toString();
     }
 
     private void restoreLeaves() {

@@ -43,6 +43,7 @@ public final class EdgeWindTest {
         test.wrongByTheLeastReason();
         test.blowNoFartherThan47();
         test.aNewBank();
+        test.nothingOfOlderBanks();
         test.aCallThatThrows();
         test.c.finish();
     }
@@ -627,6 +628,42 @@ public final class EdgeWindTest {
         c.due("no gust", x.gust(0, 0), -1);
         c.due("no run", x.count(5) + x.count(6), 0);
         c.due("nothing to undo", x.undo(), -1);
+    }
+
+    private void nothingOfOlderBanks() {
+        c.promise("A new BANK: nothing of an older one, nor of one with a FAULT");
+        String full = "yard 5 4;owner a 0 3 50 2 3;owner b 4 3 40 9 9;vane a 6;vane b 3;tree 0 2;tree 4 1;fence 3 0;fence 2 0;eddy 0 3 2;eddy 3 3 1;"
+                + "gust 0 0 5;gust 3 4 9;gust 8 1 7;gust 40 6 9;run 2 3;pact a b;pact b a;plot b 2 2;plot a 1 1;";
+        String small = "yard 3 2;owner b 0 0 5 1 1;owner a 1 0 5 3 1;tree 2 1;gust 1 1 1;";
+        String runs = small + "run 2 3;";
+        for (String text : new String[] {"", small, runs}) {
+            String fresh = Calls.all(Calls.of(text));
+            GaleBank faulty = new GaleBank();
+            c.due("a FAULT at its end", Calls.bank(faulty, full + "#"), -1 - full.length());
+            c.due("an empty BANK still", faulty.count(2), 0);
+            Calls.bank(faulty, text);
+            c.same("behind a FAULT", Calls.all(faulty), fresh);
+            GaleBank third = new GaleBank();
+            Calls.bank(third, full);
+            third.blow(48);
+            Calls.bank(third, full);
+            third.blow(48);
+            c.due("b lost", third.owner(1, 9) > 0, true);
+            c.due("a had", third.owner(0, 10) > 0, true);
+            Calls.bank(third, text);
+            c.same("the third", Calls.all(third), fresh);
+        }
+        GaleBank again = new GaleBank();
+        Calls.bank(again, full + "#");
+        c.due("what was told once may be told anew", Calls.bank(again, full), 20);
+        c.due("and anew", Calls.bank(again, full), 20);
+        c.due("and anew", Calls.bank(again, full), 20);
+        GaleBank order = new GaleBank();
+        Calls.bank(order, three(1, 2, 3) + "run 5 5;#");
+        Calls.bank(order, three(3, 2, 1) + "run 5 5;");
+        order.blow(1);
+        c.due("its own order in RUNS", order.owner(0, 2), 5);
+        c.due("no more gusts than 30 in each", Calls.bank(order, "gust 0 0 1;") + Calls.bank(order, "gust 0 0 1;"), 2);
     }
 
     private void aCallThatThrows() {
