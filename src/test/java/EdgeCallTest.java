@@ -1171,7 +1171,7 @@ public final class EdgeCallTest {
     private static final String FULL = "yard 5 4;owner a 0 3 50 2 3;owner b 4 3 40 1 0;vane a 6;tree 0 2;tree 4 1;fence 3 0;eddy 0 3 2;eddy 4 3 1;"
             + "gust 0 0 5;gust 3 4 9;gust 8 1 7;gust 40 6 9;run 2 3;pact a b;plot b 2 2;";
     private static final String OTHER = "yard 5 4;owner c 1 1 9 1 9;owner d 0 0 8 99 8;owner e 3 3 7 50 7;tree 4 3;tree 0 3;tree 2 2;eddy 1 1 7;fence 3 1;"
-            + "gust 0 3 1;gust 8 7 2;run 9 9;pact c d;plot c 2 3;plot d 4 0;vane c 5;";
+            + "gust 0 3 1;gust 8 7 2;run 9 9;pact d c;plot c 2 3;plot d 4 0;vane c 5;";
 
     private void restoredAsKept() {
         c.promise("37 They are as kept in place k");
@@ -1195,13 +1195,15 @@ public final class EdgeCallTest {
         y.image(1);
         Calls.bank(y, OTHER);
         y.restore(1);
-        int pairs = oiled(y, 1, 4);
         GaleBank fresh = Calls.of(FULL);
         fresh.blow(4);
-        for (int a = 0; a < 8; a++) {
-            c.due("the BANK as it was told: " + a, oiled(y, a, 4), oiled(fresh, a, 4));
+        int pairs = 0;
+        for (int i = 0; i < 64; i++) {
+            int found = oiled(fresh, i / 8, i % 8);
+            c.due("the BANK as it was told: " + i / 8 + " " + i % 8, oiled(y, i / 8, i % 8), found);
+            pairs += found;
         }
-        c.due("the BANK as it was told", oiled(fresh, 1, 4), pairs);
+        c.due("pairs in all", pairs, 8);
         y.fell(1);
         c.due("a tree's CELL", y.cell(14, 0), 0);
         c.due("its names", Calls.plan(y, "oil a;oil b;"), 2);

@@ -264,6 +264,13 @@ public final class EdgeWindTest {
         gains(facing(3, 2, 1), 7, 4, 2, 1);
         // 1 by 1, 2, 2: the first of like ones, not the first of all.
         gains(facing(1, 2, 2), 1, 0, 1, 0);
+        // The rest that b kept of an older gust is nothing in a later one, which it does not face.
+        GaleBank x = Calls.of(facing(5, 5, 1, 1, 1) + "vane c 2;vane d 2;vane e 2;gust 0 0 1;gust 1 2 1;");
+        x.blow(2);
+        int[] had = {0, 1, 0, 1, 1, 0};
+        for (int o = 0; o < had.length; o++) {
+            c.due("had " + o, x.owner(o, 10), had[o]);
+        }
         // 6 by seven: no one has two.
         gains(facing(1, 1, 1, 1, 1, 1, 1), 6, 1, 1, 1, 1, 1, 1, 0);
         gains(facing(1, 1, 1, 1, 1, 1, 1), 9, 2, 2, 1, 1, 1, 1, 1);
@@ -663,7 +670,23 @@ public final class EdgeWindTest {
         Calls.bank(order, three(3, 2, 1) + "run 5 5;");
         order.blow(1);
         c.due("its own order in RUNS", order.owner(0, 2), 5);
-        c.due("no more gusts than 30 in each", Calls.bank(order, "gust 0 0 1;") + Calls.bank(order, "gust 0 0 1;"), 2);
+        StringBuilder most = new StringBuilder("yard 9 9;");
+        for (int i = 0; i < 8; i++) {
+            most.append("owner ").append((char) ('a' + i)).append(' ').append(i).append(" 0 1 1 1;eddy ").append(i).append(" 0 1;");
+        }
+        for (int i = 0; i < 24; i++) {
+            most.append(i < 12 ? "tree " : "fence ").append(i % 8).append(' ').append(1 + i / 8).append(';');
+        }
+        StringBuilder gusts = new StringBuilder();
+        for (int i = 0; i < 30; i++) {
+            gusts.append("gust ").append(i).append(" 0 1;");
+        }
+        for (int i = 0; i < 4; i++) {
+            c.due("the most of things, anew", Calls.bank(order, most.toString()), 41);
+            c.due("the most of gusts, anew", Calls.bank(order, gusts.toString()), 30);
+            c.due("the most of gusts, and a FAULT", Calls.bank(order, gusts + "#"), -1 - gusts.length());
+            c.due("the most of things, and a FAULT", Calls.bank(order, most + "#"), -1 - most.length());
+        }
     }
 
     private void aCallThatThrows() {
