@@ -1204,6 +1204,16 @@ public final class EdgeCallTest {
             pairs += found;
         }
         c.due("pairs in all", pairs, 8);
+        GaleBank shade = Calls.of("yard 5 4;owner a 0 3 50 2 3;owner b 4 3 40 1 3;vane a 6;vane b 5;tree 0 2;fence 4 2;gust 0 0 4;");
+        shade.blow(1);
+        shade.image(0);
+        Calls.bank(shade, OTHER);
+        shade.restore(0);
+        // Of 4 there come 2 to a, who oiled goes on from 6 to 0, and 1 to b, who oiled goes on from 5 to 6.
+        c.due("a oiled", oiled(shade, 0, 5), 1);
+        c.due("b oiled", oiled(shade, 6, 6), 1);
+        c.due("both", oiled(shade, 0, 6), 0);
+        c.due("neither", oiled(shade, 6, 5), 0);
         y.fell(1);
         c.due("a tree's CELL", y.cell(14, 0), 0);
         c.due("its names", Calls.plan(y, "oil a;oil b;"), 2);
