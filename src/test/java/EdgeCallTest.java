@@ -12,6 +12,7 @@ public final class EdgeCallTest {
     public static void main(String[] args) {
         EdgeCallTest test = new EdgeCallTest();
         test.newObject();
+        test.newObjectHasNothing();
         test.feed();
         test.end();
         test.endHidesTheRest();
@@ -36,6 +37,7 @@ public final class EdgeCallTest {
         test.more();
         test.has();
         test.rests();
+        test.restsAnew();
         test.oiled();
         test.oiledAt();
         test.suit();
@@ -47,9 +49,11 @@ public final class EdgeCallTest {
         test.plan();
         test.judge();
         test.judgeLives();
+        test.oneLineLived();
         test.judged();
         test.sentence();
         test.said();
+        test.saidByJoints();
         test.image();
         test.restore();
         test.restoredAsKept();
@@ -78,6 +82,33 @@ public final class EdgeCallTest {
         c.due("a tape of none is the same BANK", x.bank(), 0);
         c.due("all QUARTERS go by", x.blow(48), 48);
         c.due("all of that is undone", x.undo(), 0);
+    }
+
+    private void newObjectHasNothing() {
+        c.promise("1 An empty BANK: nothing was done, told or kept");
+        c.due("undo", new GaleBank().undo(), -1);
+        c.due("fault", new GaleBank().fault(), 0);
+        c.due("more", new GaleBank().more(), -1);
+        c.due("oiledAt", new GaleBank().oiledAt(0), -1);
+        c.due("judged", new GaleBank().judged(0), -1);
+        c.due("said", new GaleBank().said(-1), -1);
+        c.due("judge: no LINE is WRONG", new GaleBank().judge(1), -1);
+        c.due("restore 0", new GaleBank().restore(0), false);
+        c.due("restore 1", new GaleBank().restore(1), false);
+        c.due("end", new GaleBank().end(0), true);
+        c.due("end", new GaleBank().end(1), false);
+        c.due("plan of an empty tape", new GaleBank().plan(), 0);
+        c.due("sentence of an empty tape", new GaleBank().sentence(), -1);
+        c.due("richest", new GaleBank().richest(), -1);
+        GaleBank x = new GaleBank();
+        c.due("a SENTENCE without a bank()", Calls.sentence(x, "faces"), 1);
+        c.due("how many", x.said(-1), 0);
+        c.due("a PLAN without a bank()", Calls.plan(x, "blow 47;blow 2;"), 2);
+        c.due("it is lived", x.judge(1), -1);
+        c.due("all QUARTERS are gone", x.now(0), 48);
+        c.due("it is undone", x.undo(), 0);
+        c.due("none is", x.undo(), -1);
+        c.due("QUARTER 0 is next", x.now(0), 0);
     }
 
     private void feed() {
@@ -732,6 +763,53 @@ public final class EdgeCallTest {
         c.due("the first of none", round.rests(0), -1);
     }
 
+    private void restsAnew() {
+        c.promise("22 PLOTS at REST, of what is so then");
+        String shades = SHADE + "plot a 6 5;plot b 1 0;";
+        GaleBank x = Calls.of(shades);
+        c.due("of three", x.rests(-1), 3);
+        c.due("the first", x.rests(0), 1);
+        x.blow(1);
+        c.due("behind blow() all four", x.rests(-1), 4);
+        x.undo();
+        c.due("behind undo() three", x.rests(-1), 3);
+        x.set(56);
+        c.due("behind set() on a's", x.rests(-1), 2);
+        c.due("the last", x.rests(1), 2);
+        x.undo();
+        c.due("behind undo() three", x.rests(-1), 3);
+        x.image(0);
+        Calls.plan(x, "blow 1;");
+        x.judge(0);
+        c.due("behind a PLAN not lived three", x.rests(-1), 3);
+        x.judge(1);
+        c.due("behind a PLAN lived four", x.rests(-1), 4);
+        x.restore(0);
+        c.due("behind restore() three", x.rests(-1), 3);
+        x.point(1, 6);
+        c.due("behind point(): b loses anyhow", x.rests(-1), 4);
+        x.undo();
+        c.due("behind undo() three", x.rests(-1), 3);
+        Calls.bank(x, shades.replace("50 1 0;gust", "50 1 9;gust"));
+        c.due("b does not turn: it loses anyhow", x.rests(-1), 4);
+        x.oil(1);
+        c.due("behind oil() it turns", x.rests(-1), 3);
+        x.undo();
+        c.due("behind undo() four", x.rests(-1), 4);
+        Calls.bank(x, shades);
+        c.due("behind bank() three", x.rests(-1), 3);
+        Calls.bank(x, "#");
+        c.due("behind a bank() with a FAULT three", x.rests(-1), 3);
+        Calls.bank(x, "yard 10 10;owner a 0 0 1 1 0;owner b 5 5 1 1 0;");
+        c.due("poorer ones without plots: the empty set", x.rests(-1), 1);
+        c.due("the empty set", x.rests(0), 0);
+        GaleBank tree = Calls.of(shades.replace("plot a 6 5;", "plot a 0 9;tree 6 5;tree 0 9;"));
+        // By the tree there comes 1 to b, who does not face it and loses by any set.
+        c.due("a tree on a's", tree.rests(-1), 2);
+        tree.fell(1);
+        c.due("behind fell() twice as many", tree.rests(-1), 4);
+    }
+
     private int oiled(GaleBank x, int... dirs) {
         Calls.tape(x, Calls.bytes(dirs));
         return x.oiled();
@@ -1016,6 +1094,29 @@ public final class EdgeCallTest {
         c.due("QUARTER", x.now(0), 2);
     }
 
+    private void oneLineLived() {
+        c.promise("32 a PLAN of one LINE, or of which one was done, is lived");
+        GaleBank x = Calls.of(BANK);
+        Calls.plan(x, "blow 1;");
+        c.due("lived", x.judge(1), -1);
+        c.due("QUARTER", x.now(0), 1);
+        c.due("LINES done", x.judged(1), 1);
+        Calls.plan(x, "fell 0;fell 0;");
+        c.due("lived to the second LINE", x.judge(1), 1);
+        c.due("trees", x.now(5), 1);
+        c.due("LINES done", x.judged(1), 1);
+        c.due("it is undone", x.undo(), 1);
+        c.due("trees", x.now(5), 2);
+        c.due("the first is undone", x.undo(), 0);
+        c.due("QUARTER", x.now(0), 0);
+        String[] lines = {"set 2 2;", "fell 1;", "oil a;", "point a 7;", "blow 48;"};
+        for (int i = 0; i < lines.length; i++) {
+            Calls.plan(x, lines[i]);
+            c.due("lived: " + lines[i], x.judge(1), -1);
+            c.due("kept for undo(): " + lines[i], x.undo(), 0);
+        }
+    }
+
     private void judged() {
         c.promise("33 0: it was not; NONE: another what, or ahead of any");
         GaleBank x = Calls.of(BANK);
@@ -1108,6 +1209,43 @@ public final class EdgeCallTest {
         Calls.sentence(none, "not faces");
         c.due("no OWNERS", none.said(-1), 0);
         c.due("no OWNERS", none.said(0), -1);
+    }
+
+    private void saidOf(String sentence, int owners) {
+        GaleBank x = Calls.of(eight(""));
+        Calls.sentence(x, sentence);
+        c.due("how many: " + sentence, x.said(-1), Integer.bitCount(owners));
+        int k = 0;
+        for (int o = 0; o < 8; o++) {
+            if ((owners >> o & 1) == 1) {
+                c.due("the k-th: " + sentence, x.said(k), o);
+                k++;
+            }
+        }
+        c.due("no more: " + sentence, x.said(k), -1);
+    }
+
+    private void saidByJoints() {
+        c.promise("35 COND: ALL { 'or' ALL }, ALL: ONE { 'and' ONE }: 'and' joins ahead of 'or'");
+        String[] tests = {"place<0", "place=1", "place<4", "place>2", "place=7", "place>999", "place<999"};
+        int[] bits = {0, 2, 15, 248, 128, 0, 255};
+        for (int i = 0; i < tests.length; i++) {
+            saidOf(tests[i], bits[i]);
+            saidOf("not " + tests[i], 255 ^ bits[i]);
+            saidOf("not not " + tests[i], bits[i]);
+            for (int j = 0; j < tests.length; j++) {
+                saidOf(tests[i] + " and " + tests[j], bits[i] & bits[j]);
+                saidOf(tests[i] + " or " + tests[j], bits[i] | bits[j]);
+                saidOf("not " + tests[i] + " or " + tests[j], 255 ^ bits[i] | bits[j]);
+                saidOf("not(" + tests[i] + " or " + tests[j] + ")", 255 ^ (bits[i] | bits[j]));
+            }
+        }
+        saidOf("place=0 or place=1 and place=2", 1);
+        saidOf("place=1 and place=2 or place=0", 1);
+        saidOf("(place=0 or place=1)and place=1", 2);
+        saidOf("place=1 and(place=0 or place=1)", 2);
+        saidOf("place=0 or place=1 and place<9 or place=3", 11);
+        saidOf("not place=0 and place<2", 2);
     }
 
     // ---- images ----

@@ -51,6 +51,10 @@ public final class EdgeTextTest {
         test.firstAlongTheText();
         test.leastOfOneToken();
         test.emptyTexts();
+        test.linesThatCantCome();
+        test.numbersInAWordsPlace();
+        test.onesThatCantCome();
+        test.partsOfALineThatCantCome();
         test.c.finish();
     }
 
@@ -629,5 +633,114 @@ public final class EdgeTextTest {
         fault("|;", 1);
         faultyPlan("|;", 1);
         faultySentence(blanks(200) + "|", 1);
+    }
+
+    // ---- tokens that can't come ----
+
+    private static final String BANK_WORDS = "yard owner vane tree fence eddy gust pact plot run";
+    private static final String PLAN_WORDS = "set fell oil point blow";
+    private static final String JOINTS = "or and";
+    private static final String ONE_WORDS = "not faces gold purse stick dir place";
+
+    private static String[] words(String... rows) {
+        return String.join(" ", rows).split(" ");
+    }
+
+    private void linesThatCantCome() {
+        c.promise("FAULT 1 a TOKEN that can't come: a LINE's first");
+        for (String word : words(PLAN_WORDS, JOINTS, ONE_WORDS)) {
+            fault("|" + word + ";", 1);
+            fault(TWO + "|" + word + " 1 1;", 1);
+            fault(TWO + "|" + word + " a 1;", 1);
+        }
+        for (String word : words(BANK_WORDS, JOINTS, ONE_WORDS)) {
+            faultyPlan("|" + word + ";", 1);
+            faultyPlan("oil a;|" + word + " 1;", 1);
+            faultyPlan("oil a;|" + word + " a;", 1);
+            faultyPlan("oil a;|" + word + " 1 1;", 1);
+        }
+        fault(TWO + "|a 1 1;", 1);
+        faultyPlan("|a;", 1);
+        fault(TWO + "|(tree 5 5);", 1);
+        faultyPlan("|(oil a);", 1);
+        faultyPlan("oil a;|;", 1);
+    }
+
+    private void numbersInAWordsPlace() {
+        c.promise("FAULT 1 a TOKEN that can't come: a NUMBER in a WORD's place");
+        for (int n = 0; n < 70; n++) {
+            fault(TWO + "|" + n + " 5 5;", 1);
+            fault(TWO + "|" + n + " a 5;", 1);
+            faultyPlan("|" + n + " 5;", 1);
+            faultyPlan("|" + n + " a;", 1);
+            faultySentence("|" + n + "", 1);
+            faultySentence("|" + n + " faces", 1);
+            faultySentence("|" + n + "=1", 1);
+            faultySentence("faces |" + n + " faces", 1);
+            fault(TWO + "vane |" + n + " 5;", 1);
+            fault(YARD + "owner |" + n + " 5 5 1 1 1;", 1);
+        }
+    }
+
+    private void onesThatCantCome() {
+        c.promise("FAULT 1 a TOKEN that can't come: in a SENTENCE");
+        for (String word : words(BANK_WORDS, PLAN_WORDS, JOINTS, "a")) {
+            faultySentence("|" + word, 1);
+            faultySentence("|" + word + "=1", 1);
+            faultySentence("not |" + word, 1);
+            faultySentence("(|" + word + ")", 1);
+            faultySentence("faces and |" + word, 1);
+            faultySentence("faces or |" + word, 1);
+        }
+        for (String word : words(BANK_WORDS, PLAN_WORDS, ONE_WORDS, "a", ";", "<", "=", ">", "(", ")", "7")) {
+            faultySentence("faces |" + word, 1);
+            faultySentence("gold=1 |" + word + " 1", 1);
+        }
+        for (String field : words("gold purse stick dir place")) {
+            faultySentence(field + "|", 1);
+            faultySentence(field + " |5", 1);
+            faultySentence(field + " |and faces", 1);
+            faultySentence(field + " |(=5)", 1);
+            faultySentence(field + "=|", 1);
+            faultySentence(field + "=|=5", 1);
+            faultySentence(field + "<|a", 1);
+            faultySentence(field + ">|" + field, 1);
+        }
+        faultySentence("faces|=1", 1);
+        faultySentence("(|)", 1);
+        faultySentence("(faces|;", 1);
+        faultySentence("(faces or|", 1);
+        faultySentence("not not|", 1);
+        faultySentence("((faces)|", 1);
+        faultySentence("(faces)|)", 1);
+        faultySentence("|)", 1);
+        faultySentence("|=", 1);
+    }
+
+    private void partsOfALineThatCantCome() {
+        c.promise("FAULT 1 a TOKEN that can't come: a LINE's part left out, or one too many");
+        String[] lines = {"yard 9 9", "owner d 5 5 1 1 1", "vane a 1", "tree 5 5", "fence 5 5", "eddy 5 5 1", "gust 0 0 1", "pact a b", "plot a 5 5", "run 1 1"};
+        for (String line : lines) {
+            String ahead = line.startsWith("yard") ? "" : TWO;
+            for (int at = line.indexOf(' '); at >= 0; at = line.indexOf(' ', at + 1)) {
+                fault(ahead + line.substring(0, at) + "|;", 1);
+                fault(ahead + line.substring(0, at) + "|", 1);
+                fault(ahead + line.substring(0, at) + " |)", 1);
+            }
+            fault(ahead + line + "|", 1);
+            fault(ahead + line + " |1;", 1);
+            fault(ahead + line + " |a;", 1);
+            fault(ahead + line + " |tree 5 6;", 1);
+        }
+        for (String line : new String[] {"set 5 5", "fell 0", "oil a", "point a 1", "blow 1"}) {
+            for (int at = line.indexOf(' '); at >= 0; at = line.indexOf(' ', at + 1)) {
+                faultyPlan(line.substring(0, at) + "|;", 1);
+                faultyPlan(line.substring(0, at) + "|", 1);
+            }
+            faultyPlan(line + "|", 1);
+            faultyPlan(line + " |1;", 1);
+            faultyPlan(line + " |b;", 1);
+            faultyPlan(line + " |oil a;", 1);
+        }
     }
 }

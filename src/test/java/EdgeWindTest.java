@@ -9,9 +9,11 @@ public final class EdgeWindTest {
     public static void main(String[] args) {
         EdgeWindTest test = new EdgeWindTest();
         test.threeCells();
+        test.eightDirs();
         test.nothingOutsideTheYard();
         test.zeroAtLeast();
         test.eddyOnTheCellItself();
+        test.eddyOnTheFirstAndTheLast();
         test.byFourAsTheClockGoes();
         test.aboveItsStick();
         test.notFartherThanTheDir();
@@ -23,6 +25,7 @@ public final class EdgeWindTest {
         test.partsAreCut();
         test.greatestRests();
         test.thirdIsCut();
+        test.pactsOfAll();
         test.noneFaces();
         test.runByShare();
         test.runOrWhatTheyHave();
@@ -35,6 +38,7 @@ public final class EdgeWindTest {
         test.atRest();
         test.oiledOfThoseGone();
         test.oiledAsTold();
+        test.oiledByTheLeastForce();
         test.suitFromNowOn();
         test.forecastFromNowOn();
         test.forecastDoesNotStick();
@@ -66,6 +70,24 @@ public final class EdgeWindTest {
         c.due("one", all.comes(25, 0, 9, 1), 6);
         GaleBank vane = Calls.of(YARD + "owner a 5 4 1 1 1;eddy 5 3 1;owner b 0 0 1 1 1;plot b 5 2;");
         c.due("a vane, an eddy and a plot take nothing", vane.comes(55, 0, 9, 1), 9);
+    }
+
+    private void eightDirs() {
+        c.promise("DIR: 0 to 7: whence the wind comes: north, north-east, east, .. as the clock goes (north is Y less)");
+        int[] east = {0, 1, 1, 1, 0, -1, -1, -1};
+        int[] south = {-1, -1, 0, 1, 1, 1, 0, -1};
+        for (int dir = 0; dir < 8; dir++) {
+            for (int far = 1; far <= 4; far++) {
+                String place = 5 + far * east[dir] + " " + (5 + far * south[dir]) + ";";
+                GaleBank tree = Calls.of(YARD + "tree " + place);
+                GaleBank fence = Calls.of(YARD + "fence " + place);
+                for (int from = 0; from < 8; from++) {
+                    boolean takes = from == dir && far <= 3;
+                    c.due("a tree in " + dir + " so far: " + far + ", from " + from, tree.comes(55, from, 9, 1), takes ? 7 : 9);
+                    c.due("a fence in " + dir + " so far: " + far + ", from " + from, fence.comes(55, from, 9, 1), takes ? 6 : 9);
+                }
+            }
+        }
     }
 
     private void nothingOutsideTheYard() {
@@ -105,6 +127,18 @@ public final class EdgeWindTest {
                 c.due("a CELL beside it", x.comes(54, dir, 9, 0), dir);
             }
         }
+    }
+
+    private void eddyOnTheFirstAndTheLast() {
+        c.promise("an eddy on the first and on the last CELL");
+        GaleBank x = Calls.of(YARD + "owner a 0 0 9 1 0;owner b 9 9 9 1 0;eddy 0 0 3;eddy 9 9 7;gust 0 0 9;");
+        c.due("TURN of 0", x.cell(0, 2), 3);
+        c.due("TURN of 99", x.cell(99, 2), 7);
+        c.due("to 0", x.comes(0, 6, 1, 0), 1);
+        c.due("to 99", x.comes(99, 6, 1, 0), 5);
+        x.blow(1);
+        c.due("a turned", x.owner(0, 5), 3);
+        c.due("b turned", x.owner(1, 5), 7);
     }
 
     // ---- vanes ----
@@ -291,6 +325,34 @@ public final class EdgeWindTest {
         String chain = YARD + "owner z 9 9 99 1 9;vane z 4;owner a 0 9 0 1 9;owner b 1 9 0 1 9;vane b 4;pact a b;pact b z;";
         gains(chain, 9, 6, 3);
         c.due("z", Calls.of(chain).gains(0, 0, 9), -9);
+    }
+
+    private void pactsOfAll() {
+        c.promise("a third goes to the other of its pact, whoever that is, of this gust alone");
+        // z is OWNER 0: it loses, and has a's third.
+        String first = YARD + "owner z 9 9 99 1 9;vane z 4;owner a 0 9 0 1 9;pact a z;";
+        gains(first, 9, 6);
+        c.due("the first OWNER", Calls.of(first).gains(0, 0, 9), -6);
+        // Both face, and have of one another: 5 and 4, thirds 1 and 1.
+        gains(YARD + "owner z 9 9 99 1 9;vane z 4;owner a 0 9 0 1 9;owner b 1 9 0 1 9;pact a b;pact b a;", 9, 5, 4);
+        // Both face, b by a greater SHARE: 3 and 6, thirds 1 and 2.
+        gains(YARD + "owner z 9 9 99 1 9;vane z 4;owner a 0 9 0 1 9;owner b 1 9 0 2 9;pact a b;pact b a;", 9, 4, 5);
+        // A round of three, 3 each.
+        gains(YARD + "owner z 9 9 99 1 9;vane z 4;owner a 0 9 0 1 9;owner b 1 9 0 1 9;owner e 2 9 0 1 9;pact a b;pact b e;pact e a;", 9, 3, 3, 3);
+        // Two give to one: 6 and 3, thirds 2 and 1.
+        gains(YARD + "owner z 9 9 99 1 9;vane z 4;owner a 0 9 0 2 9;owner b 1 9 0 1 9;owner e 2 9 0 1 9;vane e 4;pact a e;pact b e;", 9, 4, 2, 3);
+        // The first OWNER faces one gust and not the next, where none of the older gain comes again.
+        GaleBank x = Calls.of(YARD + "owner a 0 9 50 1 9;owner b 1 9 50 1 9;vane b 2;gust 0 0 9;gust 1 2 3;");
+        x.blow(2);
+        c.due("a had", x.owner(0, 10), 9);
+        c.due("a lost", x.owner(0, 9), 3);
+        c.due("b had", x.owner(1, 10), 3);
+        c.due("b lost", x.owner(1, 9), 9);
+        // A third goes even to one who lost all and none to the TRUST.
+        GaleBank none = Calls.of(first + "gust 0 2 9;");
+        none.blow(1);
+        c.due("none FACES it: no third", none.owner(0, 10), 0);
+        c.due("the TRUST has all", none.now(1), 9);
     }
 
     private void noneFaces() {
@@ -489,6 +551,25 @@ public final class EdgeWindTest {
         c.due("oiled", oiled(x, 0), 1);
         c.due("not as it points now", oiled(x, x.owner(0, 5) == 0 ? 7 : x.owner(0, 5)), 0);
         c.due("not as without oil", oiled(x, 6), 0);
+    }
+
+    private void oiledByTheLeastForce() {
+        c.promise("OILED: a gust with FORCE 1 turns an oiled vane, one with 1 left, too; none with 0 left does");
+        GaleBank x = Calls.of(YARD + "owner a 5 5 50 1 1;gust 0 2 1;gust 1 4 1;");
+        x.blow(1);
+        c.due("by one eighth", oiled(x, 1), 1);
+        x.blow(1);
+        c.due("by two", oiled(x, 2), 1);
+        c.due("ahead of 0", x.oiledAt(0), 0);
+        c.due("by one", oiled(x, 1), 1);
+        c.due("ahead of 1", x.oiledAt(0), 1);
+        c.due("without oil", oiled(x, 0), 0);
+        GaleBank shade = Calls.of(YARD + "owner a 5 5 50 1 1;fence 5 6;gust 0 4 3;gust 1 4 4;");
+        shade.blow(1);
+        c.due("0 is left", oiled(shade, 0), 1);
+        c.due("0 is left, so it does not turn", oiled(shade, 1), 0);
+        shade.blow(1);
+        c.due("1 is left", oiled(shade, 1), 2);
     }
 
     private void suitFromNowOn() {
