@@ -58,6 +58,9 @@ public final class EdgeCallTest {
         test.restore();
         test.restoredAsKept();
         test.restoredTexts();
+        test.restoredWithoutTexts();
+        test.restoredYards();
+        test.restoredShorterAndLonger();
         test.restoreLeaves();
         test.count();
         test.c.finish();
@@ -1311,22 +1314,26 @@ public final class EdgeCallTest {
     private static final String OTHER = "yard 5 4;owner c 1 1 9 1 9;owner d 0 0 8 99 8;owner e 3 3 7 50 7;tree 4 3;tree 0 3;tree 2 2;eddy 1 1 7;fence 3 1;"
             + "gust 0 3 1;gust 8 7 2;run 9 9;pact d c;plot c 2 3;plot d 4 0;vane c 5;";
 
-    private void restoredAsKept() {
-        c.promise("37 They are as kept in place k");
+    private static GaleBank lived() {
         GaleBank x = Calls.of(FULL);
         Calls.plan(x, "point b 2;blow 9;set 1 1;fell 1;");
         Calls.sentence(x, "not (gold<45 or dir=3) and stick>0");
         x.blow(4);
         x.fell(0);
         x.point(0, 5);
-        String kept = Calls.all(x);
+        return x;
+    }
+
+    private void restoredAsKept() {
+        c.promise("37 They are as kept in place k");
+        GaleBank x = lived();
         x.image(0);
         Calls.bank(x, OTHER);
         Calls.plan(x, "oil c;oil d;oil e;fell 9;");
         Calls.sentence(x, "place<9");
         x.blow(20);
         c.due("restore", x.restore(0), true);
-        c.same("as kept", Calls.all(x), kept);
+        c.same("as kept", Calls.all(x), Calls.all(lived()));
 
         GaleBank y = Calls.of(FULL);
         y.blow(4);
@@ -1379,6 +1386,79 @@ public final class EdgeCallTest {
         }
         Calls.plan(x, "set 0 0;set 0 0;");
         c.due("a longer PLAN once kept does not show", x.judge(0), 1);
+    }
+
+    private void restoredYards() {
+        c.promise("37 a BANK with another yard is as kept");
+        String[] yards = {"yard 5 4;", "yard 3 2;", "yard 2 10;", "yard 10 2;", ""};
+        int[] width = {5, 3, 2, 10, 0};
+        int[] height = {4, 2, 10, 2, 0};
+        for (int kept = 0; kept < yards.length; kept++) {
+            for (int later = 0; later < yards.length; later++) {
+                GaleBank x = Calls.of(yards[kept]);
+                x.image(0);
+                Calls.bank(x, yards[later]);
+                x.restore(0);
+                c.due("W", x.count(0), width[kept]);
+                c.due("H", x.count(1), height[kept]);
+                for (int at = 0; at < 100; at++) {
+                    boolean is = at % 10 < width[kept] && at / 10 < height[kept];
+                    c.due("comes to " + at, x.comes(at, 0, 1, 1), is ? 1 : -1);
+                }
+                boolean told = kept < 4;
+                c.due("the last CELL of a PLAN", Calls.plan(x, "set " + (width[kept] - 1 & 15) + " " + (height[kept] - 1 & 15) + ";"), told ? 1 : -5);
+                c.due("no X behind it", Calls.plan(x, "set " + width[kept] + " 0;"), -5);
+                c.due("no Y behind it", Calls.plan(x, "set 0 " + height[kept] + ";"), told ? -7 : -5);
+            }
+        }
+    }
+
+    private void restoredShorterAndLonger() {
+        c.promise("37 a SENTENCE that is shorter or longer than the one now is as kept");
+        String[] sentences = {"place=3", "place=0 and not place=3", "not place=1", "not not place=2", "place=4 or place=5 or place=6"};
+        int[] bits = {8, 1, 253, 4, 112};
+        for (int older = 0; older < sentences.length; older++) {
+            for (int kept = 0; kept < sentences.length; kept++) {
+                for (int later = 0; later < sentences.length; later++) {
+                    GaleBank x = Calls.of(eight(""));
+                    Calls.sentence(x, sentences[older]);
+                    Calls.sentence(x, sentences[later]);
+                    Calls.sentence(x, sentences[kept]);
+                    x.image(1);
+                    Calls.sentence(x, sentences[later]);
+                    x.restore(1);
+                    int said = 0;
+                    for (int k = 0; k < 8; k++) {
+                        said |= x.said(k) < 0 ? 0 : 1 << x.said(k);
+                    }
+                    c.due("of whom " + sentences[kept] + ", then " + sentences[later], said, bits[kept]);
+                    c.due("how many " + sentences[kept], x.said(-1), Integer.bitCount(bits[kept]));
+                }
+            }
+        }
+    }
+
+    private void restoredWithoutTexts() {
+        c.promise("37 no PLAN, no SENTENCE is kept, too");
+        GaleBank x = Calls.of(BANK);
+        x.image(0);
+        Calls.plan(x, "oil a;");
+        Calls.sentence(x, "place=1");
+        x.image(1);
+        x.restore(0);
+        c.due("no SENTENCE", x.said(-1), -1);
+        c.due("no SENTENCE, the first", x.said(0), -1);
+        c.due("no PLAN", x.count(7), 0);
+        x.judge(0);
+        c.due("no LINES done", x.judged(1), 0);
+        Calls.bank(x, BANK);
+        c.due("a new BANK has none", x.said(-1), -1);
+        x.restore(1);
+        c.due("a SENTENCE as kept", x.said(-1), 1);
+        c.due("of whom", x.said(0), 1);
+        c.due("a PLAN as kept", x.count(7), 1);
+        x.judge(0);
+        c.due("LINES done", x.judged(1), 1);
     }
 
     private static String told(GaleBank x) {

@@ -333,6 +333,11 @@ public final class EdgeWindTest {
         String first = YARD + "owner z 9 9 99 1 9;vane z 4;owner a 0 9 0 1 9;pact a z;";
         gains(first, 9, 6);
         c.due("the first OWNER", Calls.of(first).gains(0, 0, 9), -6);
+        // z is OWNER 0: it faces, and a, who loses, has its third.
+        String gives = YARD + "owner z 9 9 0 1 9;owner a 0 9 99 1 9;vane a 4;pact z a;";
+        gains(gives, 9, -6);
+        c.due("the first OWNER gives", Calls.of(gives).gains(0, 0, 9), 6);
+        c.due("as the gust is worth it", Calls.of(gives).gains(0, 0, 2), 2);
         // Both face, and have of one another: 5 and 4, thirds 1 and 1.
         gains(YARD + "owner z 9 9 99 1 9;vane z 4;owner a 0 9 0 1 9;owner b 1 9 0 1 9;pact a b;pact b a;", 9, 5, 4);
         // Both face, b by a greater SHARE: 3 and 6, thirds 1 and 2.
@@ -421,9 +426,10 @@ public final class EdgeWindTest {
 
     private void neverChange() {
         c.promise("All gold, PURSES and the TRUST together never change");
-        GaleBank x = Calls.of(three(5, 7, 9) + "run 7 12;pact a b;pact b d;vane b 2;eddy 2 0 3;gust 1 2 9;gust 3 4 7;gust 5 1 9;gust 8 0 8;gust 47 3 9;");
-        for (int i = 0; i < 48; i++) {
-            x.blow(1);
+        String text = three(5, 7, 9) + "run 7 12;pact a b;pact b d;vane b 2;eddy 2 0 3;gust 1 2 9;gust 3 4 7;gust 5 1 9;gust 8 0 8;gust 47 3 9;";
+        for (int i = 1; i <= 48; i++) {
+            GaleBank x = Calls.of(text);
+            x.blow(i);
             c.due("behind " + i, x.now(1) + x.now(2) + x.now(3), 150);
             int owners = 0;
             for (int o = 0; o < 3; o++) {

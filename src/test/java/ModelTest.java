@@ -4,7 +4,10 @@ import java.util.List;
 import java.util.NoSuchElementException;
 import java.util.Random;
 
-/** Long runs of drawn calls, each answer compared with the model's. */
+/**
+ * Long runs of drawn calls, each answer compared with the model's. They go on behind an object's 512th call, where the document
+ * leaves the answers free: this class goes on as before, and long runs find more.
+ */
 public final class ModelTest {
     private static final int NONE = GaleBank.NONE;
     private static final int RUNS = 250;

@@ -268,9 +268,10 @@ public final class WhatIfTest {
 
     private void odds() {
         c.promise("28 odds");
-        GaleBank x = Calls.of("yard 4 4;owner a 0 3 500 1 2;owner b 3 3 500 1 3;vane b 3;tree 0 1;run 3 4;");
+        String text = "yard 4 4;owner a 0 3 500 1 2;owner b 3 3 500 1 3;vane b 3;tree 0 1;run 3 4;";
         int all = 0;
         for (int n = 1; n <= 100; n++) {
+            GaleBank x = Calls.of(text);
             int less = 0;
             for (int i = 0; i < n; i++) {
                 less += x.drawn(1, 12, Integer.MAX_VALUE - 4 + i) < 500 ? 1 : 0;
@@ -279,6 +280,7 @@ public final class WhatIfTest {
             all = less;
         }
         c.due("seeds differ", all > 0 && all < 100, true);
+        GaleBank x = Calls.of(text);
         c.due("n 0", x.odds(0, 0, 5), -1);
         c.due("n 101", x.odds(0, 101, 5), -1);
         c.due("OWNER 2", x.odds(2, 1, 5), -1);
